@@ -26,17 +26,17 @@ public final class LitmusRows {
     private static final int LAST_EDGE_KIND = 10;
     private static final int MOST_GAPS_TRIED = 10;
 
+    private final Reader reader;
     private final Text text;
     private final Program program;
-    private final Reader reader;
     private final Ring ring;
     private final Trial trial;
     private final Sheet sheet;
 
     public LitmusRows() {
-        text = new Text();
-        program = new Program();
-        reader = new Reader(text, program);
+        reader = new Reader();
+        text = reader.text;
+        program = reader.program;
         ring = new Ring();
         trial = new Trial();
         sheet = new Sheet();
@@ -66,7 +66,8 @@ public final class LitmusRows {
 
     public int read() throws IllegalArgumentException {
         trial.forget();
-        boolean fits = reader.takeText();
+        reader.begin();
+        boolean fits = reader.takeThreads() && reader.takeCondition() && reader.takeNoMore();
         text.length = 0;
         if (!fits) {
             program.clear();
@@ -430,8 +431,8 @@ public final class LitmusRows {
     }
 
     /**
-     * Reads a text into a program. What takes something answers whether it was there; if it was
-     * not, the fault is told already.
+     * Reads its text into its program. What takes something answers whether it was there; if it
+     * was not, the fault is told already.
      */
     private static final class Reader {
         private static final int STRANGE_BYTE = 1;
@@ -440,21 +441,19 @@ public final class LitmusRows {
         private static final int ONE_TOO_MANY = 4;
         private static final int NOT_IN_THREADS = 5;
 
-        private final Text text;
-        private final Program program;
+        final Text text = new Text();
+        final Program program = new Program();
         int faultNumber;
         int faultPlace;
 
-        Reader(Text text, Program program) {
-            this.text = text;
-            this.program = program;
-        }
-
-        boolean takeText() {
+        void begin() {
             program.clear();
             faultNumber = 0;
             faultPlace = 0;
             text.goToFirst();
+        }
+
+        boolean takeThreads() {
             for (int t = 0; t < MOST_THREADS && text.digitBehind('t') == t; t++) {
                 if (!takeThread()) {
                     return false;
@@ -466,7 +465,7 @@ public final class LitmusRows {
             if (program.threads == MOST_THREADS && text.digitBehind('t') == MOST_THREADS) {
                 return tell(ONE_TOO_MANY, text.start);
             }
-            return takeCondition() && takeNoMore();
+            return true;
         }
 
         private boolean takeThread() {
@@ -527,7 +526,7 @@ public final class LitmusRows {
             return true;
         }
 
-        private boolean takeCondition() {
+        boolean takeCondition() {
             if (text.isWord("exists")) {
                 program.condition = EXISTS;
             } else if (text.isWord("forall")) {
@@ -609,7 +608,7 @@ public final class LitmusRows {
             return true;
         }
 
-        private boolean takeNoMore() {
+        boolean takeNoMore() {
             return text.lexeme == Text.NO_MORE || tellMisfit();
         }
 
