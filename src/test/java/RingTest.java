@@ -100,6 +100,15 @@ final class RingTest {
         Rig.due("asked while trying: fences()", x.fences(), 1);
         Rig.dueThrow("no ring", IllegalStateException.class, x::make);
         Rig.due("trying goes on behind no ring", x.asked(), 0);
+
+        LitmusRows y = Rig.make(3, 2, 3, 2, 3, 2, 3, 2);
+        Rig.due("four places", y.count(3), 4);
+        for (int kind : new int[] {4, 1, 4, 1}) {
+            y.edge(kind);
+        }
+        y.make();
+        Rig.due("nothing is left of them", Rig.printed(y),
+                "t0: w a 1; r b r0;\nt1: w b 1; r a r0;\nexists (t0:r0 = 0 & t1:r0 = 0)\n");
     }
 
     /** Every chain of edges that fits, up to this many. */

@@ -8,6 +8,7 @@ final class TextTest {
         faults();
         limits();
         afterAFault();
+        whatIsGone();
         Rig.finish();
     }
 
@@ -149,6 +150,7 @@ final class TextTest {
         fault("t0: f f;", 2, 6);
         fault("t0: f t1:", 2, 6);
         fault("t0: ff;", 2, 4);
+        fault("t0: z;", 2, 4);
         fault("t0: ;", 2, 4);
         fault("t0: r0;", 2, 4);
         fault("t0: 100;", 2, 4);
@@ -289,6 +291,33 @@ final class TextTest {
         Rig.due("fault stays", x.fault(0), 3);
         Rig.due("read()", x.read(), 2);
         Rig.due("fault(0) is gone", x.fault(0), 0);
+        Rig.due("and its place", x.fault(1), 0);
+    }
+
+    /** What end() or a longer text before left behind the text is not read. */
+    private static void whatIsGone() {
+        cut("t0:f;f;f;t1:t2:f", 13, 2, 12);
+        cut("t0: f; w a 1234;", 12, 2, 12);
+        cut("t0: f; w a 9999;", 13, 2, 13);
+        cut("t0: f; f; w a 1;", 15, 2, 15);
+        LitmusRows x = Rig.read("t0: w a 1; w a 2; w a 3; w a 4; exists (a = 1 & b = 2)");
+        Rig.feed(x, "t0: w b 5; w b 6;");
+        Rig.due("a shorter program", x.read(), 2);
+        Rig.due("its gaps", x.fences(), 1);
+        Rig.due("its terms", x.count(3), 0);
+        Rig.due("its condition", x.count(4), 0);
+        Rig.dueThrow("action(2, 0)", IndexOutOfBoundsException.class, () -> x.action(2, 0));
+        Rig.due("place(1)", x.place(1), 1);
+        Rig.due("printed", Rig.printed(x), "t0: w b 5; f; w b 6;\n");
+    }
+
+    private static void cut(String sixteen, int n, int number, int where) {
+        LitmusRows x = new LitmusRows();
+        Rig.feed(x, sixteen);
+        x.end(n);
+        Rig.dueThrow("read() of a cut " + sixteen, IllegalArgumentException.class, x::read);
+        Rig.due("fault(0) of a cut " + sixteen, x.fault(0), number);
+        Rig.due("fault(1) of a cut " + sixteen, x.fault(1), where);
     }
 
     private static void fault(String text, int number, int where) {
