@@ -347,6 +347,24 @@ final class BoundaryPrintTest {
             x.make();
             Rig.due("behind make()", x.count(7), 0);
         });
+        Rig.test("Promise 18, sets judged stay with place(): the program is not a new one", () -> {
+            LitmusRows x = Rig.read("t0:w a 1;w a 1;w a 1;");
+            x.fences();
+            x.judge(false);
+            x.place(0);
+            Rig.due("behind place(0)", x.count(7), 1);
+            x.place(3);
+            Rig.due("behind place(3)", x.count(7), 1);
+            x.fences();
+            Rig.due("behind fences()", x.count(7), 0);
+        });
+        Rig.test("Promise 18, sets judged are 0, when a fault takes the program", () -> {
+            LitmusRows x = Rig.read("t0:w a 1;w a 1;w a 1;");
+            x.fences();
+            x.judge(false);
+            Rig.dueThrow("read()", IllegalArgumentException.class, x::read);
+            Rig.due("count(7)", x.count(7), 0);
+        });
         Rig.test("Promise 18, sets judged stay, when make() makes none", () -> {
             LitmusRows x = Rig.read("t0:w a 1;w a 1;w a 1;");
             x.fences();

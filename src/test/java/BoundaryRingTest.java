@@ -270,8 +270,14 @@ final class BoundaryRingTest {
             Rig.dueThrow("make()", IllegalStateException.class, x::make);
             Rig.tell(x, WR, BEFORE);
             Rig.dueThrow("make()", IllegalStateException.class, x::make);
+            Rig.tell(x, RR, RR, RR, RR, RR, RR);
+            Rig.dueThrow("make()", IllegalStateException.class, x::make);
             Rig.tell(x, WR, BEFORE, WR, BEFORE);
             Rig.due("make()", x.make(), 4);
+            Rig.due("terms", x.count(3), 2);
+            Rig.tell(x, WW, FOLLOWED, WW, FOLLOWED);
+            Rig.due("make()", x.make(), 4);
+            Rig.due("printed", Rig.printed(x), "t0: w a 2; w b 1;\nt1: w b 2; w a 1;\nexists (a = 2 & b = 2)\n");
         });
         Rig.test("Promise 7, when it is no ring, the program stays, and all that hangs on it", () -> {
             LitmusRows x = Rig.read("t0:w a 1;w b 1;w c 1;exists(a=1)");

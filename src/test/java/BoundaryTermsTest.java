@@ -115,6 +115,18 @@ final class BoundaryTermsTest {
                 Rig.dueFault("t0:exists(a=" + number + ")", 3, 12);
             }
         });
+        Rig.test("Terms, fault 2: where no number fits, one above 99 does not either", () -> {
+            for (String number : new String[] {"99", "100", "4294967296"}) {
+                Rig.dueFault(number, 2, 0);
+                Rig.dueFault("t0 " + number, 2, 3);
+                Rig.dueFault("t0:" + number, 2, 3);
+                Rig.dueFault("t0:w " + number, 2, 5);
+                Rig.dueFault("t0:r a " + number, 2, 7);
+                Rig.dueFault("t0:f " + number, 2, 5);
+                Rig.dueFault("t0:exists(" + number, 2, 10);
+                Rig.dueFault("t0:exists(a=1 " + number, 2, 14);
+            }
+        });
         Rig.test("Terms, noughts before a number change nothing", () -> {
             Rig.dueRead("t0:w a 000;w b 007;w c 0099;", "t0: w a 0; w b 7; w c 99;\n");
             Rig.dueRead("t0:w a " + Rig.times(2000, "0") + "99;", "t0: w a 99;\n");
@@ -449,6 +461,20 @@ final class BoundaryTermsTest {
             Rig.dueFault("t0:r a r0;t1:r a r1;exists(t0:r1=1)", 5, 27);
             Rig.dueFault("t0:r a r0;t1:r a r1;exists(t1:r0=1)", 5, 27);
             Rig.due("its own", Rig.read("t0:r a r0;t1:r a r1;exists(t0:r0=1&t1:r1=1)").count(3), 2);
+        });
+        Rig.test("Terms, fault 5: a full program, whose last action reads", () -> {
+            String full = "t0:" + Rig.times(23, "f;") + "r a r7;exists(t0:r";
+            Rig.due("read()", Rig.read(full + "7=1)").count(3), 1);
+            Rig.dueFault(full + "6=1)", 5, 63);
+        });
+        Rig.test("Terms, fault 5: what the program before read into does not count", () -> {
+            LitmusRows x = Rig.read("t0:r a r5;r a r6;t1:r a r7;exists(t0:r5=1)");
+            Rig.feed(x, "t0:r a r0;exists(t0:r6=1)");
+            Rig.dueThrow("read()", IllegalArgumentException.class, x::read);
+            Rig.due("fault(0)", x.fault(0), 5);
+            Rig.feed(x, "t0:exists(t0:r0=1)");
+            Rig.dueThrow("read()", IllegalArgumentException.class, x::read);
+            Rig.due("fault(0)", x.fault(0), 5);
         });
         Rig.test("Terms, fault 5: only if that is a register", () -> {
             Rig.dueFault("t0:exists(t0", 2, 12);

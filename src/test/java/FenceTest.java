@@ -116,7 +116,7 @@ final class FenceTest {
     }
 
     /** All sets by size, those of one size as words of their gaps, a letter for each. */
-    private static List<Integer> words(int gaps) {
+    static List<Integer> words(int gaps) {
         List<Integer> sets = new ArrayList<>();
         for (int set = 0; set < 1 << gaps; set++) {
             sets.add(set);

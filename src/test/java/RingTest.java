@@ -161,13 +161,17 @@ final class RingTest {
     }
 
     /** What is printed of a ring's program, as the document's words have it; null for no ring. */
-    private static String model(List<Integer> kinds) {
+    static String model(List<Integer> kinds) {
         int n = kinds.size();
         int two = (int) kinds.stream().filter(k -> k <= 2).count();
         int one = n - two;
-        if (two < 2 || two > 4 || one < 2 || one > 4 || kinds.get(n - 1) > 2
-                || TO.charAt(kinds.get(n - 1)) != FROM.charAt(kinds.get(0))) {
+        if (two < 2 || two > 4 || one < 2 || one > 4 || kinds.get(n - 1) > 2) {
             return null;
+        }
+        for (int e = 0; e < n; e++) {
+            if (TO.charAt(kinds.get(e)) != FROM.charAt(kinds.get((e + 1) % n))) {
+                return null;
+            }
         }
         int[] thread = new int[n];
         int[] place = new int[n];

@@ -58,12 +58,13 @@ final class TextModelTest {
         return model.fault;
     }
 
-    private static int below(int n) {
+    static int below(int n) {
         seed = seed * 6364136223846793005L + 1442695040888963407L;
         return (int) ((seed >>> 33) % n);
     }
 
-    private static List<String> program() {
+    /** The lexemes of any program, most of them without a fault. */
+    static List<String> program() {
         List<String> words = new ArrayList<>();
         int threads = 1 + below(below(20) == 0 ? 5 : 4);
         int most = below(6) == 0 ? 16 : 4;
@@ -112,7 +113,7 @@ final class TextModelTest {
     }
 
     /** Reads lexeme by lexeme, each state a name of what is due next. */
-    private static final class Model {
+    static final class Model {
         int fault;
         int where;
         int actions;
