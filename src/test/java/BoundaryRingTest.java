@@ -306,6 +306,16 @@ final class BoundaryRingTest {
             Rig.due("state", Rig.state(x), "counts 0 2 4 2 1 0 0 0, fault 0 at 0, asked -1, known"
                     + " | 0,0,0,1 | 0,1,1,0 | 1,0,1,1 | 1,1,0,0 & 0,0,0 & 1,0,0, printed ");
         });
+        Rig.test("Promise 7, a ring of two places has nothing of one of four before it", () -> {
+            LitmusRows x = Rig.make(WW, FOLLOWED, WW, FOLLOWED, WW, FOLLOWED, WW, FOLLOWED);
+            Rig.due("terms of four places", x.count(3), 4);
+            Rig.tell(x, WR, BEFORE, WR, BEFORE);
+            x.make();
+            Rig.due("terms of two reads", x.count(3), 2);
+            Rig.tell(x, WW, FOLLOWED, WW, FOLLOWED);
+            x.make();
+            Rig.due("terms of two places", x.count(3), 2);
+        });
         Rig.test("Promise 7, make touches neither the text nor what was printed", () -> {
             LitmusRows x = Rig.read("t0:");
             x.print();
